@@ -297,10 +297,11 @@ public final class StiltWays {
         int most = NONE;
         for (int hour = 0; hour < HOURS; hour++) {
             for (int place = 0; place < now.places; place++) {
-                if (now.depths[place] < 0 && now.countStanding(place, hour) > most) {
+                int standing = now.depths[place] < 0 ? now.countStanding(place, hour) : NONE;
+                if (standing > most) {
                     bar = place;
                     when = hour;
-                    most = now.countStanding(place, hour);
+                    most = standing;
                 }
             }
         }
@@ -812,9 +813,7 @@ public final class StiltWays {
         }
 
         int soonest(int target) {
-            int last = 0;
-            for (int t = 0; t <= WALK && t - last <= MOST_PACE; t++) {
-                last = step(t) ? t : last;
+            for (int t = 0; t <= WALK && step(t); t++) {
                 if (at[t % SLOTS][target] != 0) {
                     return t;
                 }
@@ -824,10 +823,7 @@ public final class StiltWays {
 
         int lightest(int target) {
             int fewest = POSTS + 1;
-            int last = 0;
-            // Once he was nowhere for longer than any path takes, he comes nowhere any more.
-            for (int t = 0; t <= WALK && t - last <= MOST_PACE && fewest > 0; t++) {
-                last = step(t) ? t : last;
+            for (int t = 0; t <= WALK && fewest > 0 && step(t); t++) {
                 fewest = Math.min(fewest, fewestTaken(at[t % SLOTS][target]));
             }
             return fewest > POSTS ? NONE : fewest;
@@ -843,7 +839,10 @@ public final class StiltWays {
             return fewest;
         }
 
-        /** Where he can be in minute t of his walk; whether he can be anywhere. */
+        /**
+         * Where he can be in minute t of his walk; whether he can be anywhere. Who is on a path could as well have
+         * stayed at its first end, so one who can be nowhere comes nowhere any more.
+         */
         private boolean step(int t) {
             int hour = hourOf(t);
             arrive(t, hour);
@@ -1079,18 +1078,21 @@ public final class StiltWays {
         }
 
         private void readPlace() {
-            int sign = 1;
-            if (peek() == '-') {
-                next++;
-                sign = -1;
-            }
-            firsts[rows] = sign < 0 ? -readNumber(0, -LEAST_DEPTH) : readNumber(0, MOST_DEPTH);
+            firsts[rows] = readDepth();
             lasts[rows] = 0;
             if (peek() == 'p' && postsTold < POSTS) {
                 next++;
                 postsTold++;
                 lasts[rows] = readNumber(1, MOST_SPLICE);
             }
+        }
+
+        private int readDepth() {
+            if (peek() != '-') {
+                return readNumber(0, MOST_DEPTH);
+            }
+            next++;
+            return -readNumber(0, -LEAST_DEPTH);
         }
 
         private void readPath(int places) {

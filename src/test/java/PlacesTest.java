@@ -135,7 +135,25 @@ final class PlacesTest {
         Due.is("4 one", x.count(1), 1);
         Due.is("4 none was there", x.path(0, 1, 0), 0);
         Due.is("4 none was there", x.path(0, 2, 0), 0);
+        allPaths();
         Due.is("4 the other", x.path(1, 2, 3), 3);
+    }
+
+    private static void allPaths() {
+        StiltWays x = new StiltWays();
+        for (int i = 0; i < 12; i++) {
+            x.place(0);
+        }
+        x.person(0, 0, 0);
+        int all = 0;
+        for (int a = 0; a < 12; a++) {
+            for (int b = 0; b < a; b++) {
+                Due.is("4 all", x.path(b, a, all % 60 + 1), 0);
+                all++;
+                Due.is("4 how many", x.count(1), all);
+            }
+        }
+        Due.is("4 over all of them", x.way(0, 11, 0, 0), 11 + 1);
     }
 
     private static void tide() {
@@ -266,6 +284,12 @@ final class PlacesTest {
         Due.is("10 depth", x.make(0, 0, 0), -1);
         Due.is("10 splices", x.make(0, 1, 0), 2);
         Due.is("10 depth", x.make(1, 0, 0), 3);
+        Due.is("10 no splices of texts ahead", x.make(1, 1, 0), 0);
+        Due.is("10 a faulty one", Due.lagoon(x, "1p1;2p2;3p3;"), -32);
+        Due.is("10 without splices", Due.lagoon(x, "1;2;3"), 3);
+        for (int i = 0; i < 3; i++) {
+            Due.is("10 no splices of texts ahead", x.make(i, 1, 0), 0);
+        }
         Due.is("10 many 0s", Due.lagoon(x, "0000000000000000000000000000000000000000060"), 1);
         Due.is("10 depth", x.make(0, 0, 0), 60);
         Due.is("10 blanks behind the eighth", Due.lagoon(x, "1;1;1;1;1;1;1;1  "), 8);
@@ -280,7 +304,8 @@ final class PlacesTest {
             {"4294967296", 0}, {"1p4294967297", 2}, {"1;2;3;4;5;6;7;8;", 15}, {"1;2;3;4;5;6;7;8;9", 15},
             {"1;2;3;4;5;6;7;8 ;9", 16}, {"1p1;1p1;1p1;1p1", 13}, {"1p1;1p1;1p1;1 p", 14}, {"1p1;1p1;1p1;1;1p", 15},
             {"61x", 0}, {"1;~", 2}, {"1:2", 1}, {"1/2", 1}, {"1p1;2;61;;", 6}, {"1 0", 2}, {"6 1", 2}, {"-61", 1},
-            {"1;2;3;4;5;6;7;8p", 16}, {"1;2;3;4;5;6;7;8x", 15}};
+            {"pp", 0}, {"61p", 0},
+            {"61p0", 0}, {"-21p", 1}, {"1p21;x", 2}, {"1;2;3;4;5;6;7;8p", 16}, {"1;2;3;4;5;6;7;8x", 15}};
         for (Object[] row : due) {
             StiltWays x = new StiltWays();
             x.place(3);

@@ -43,6 +43,9 @@ final class SheetsTest {
             Due.is("30 refused changes nothing", x.tide(hour, 0), hour % 20);
         }
         x.item(0, 2, 23, 5);
+        x.item(0, 2, 0, 21);
+        Due.is("30 not the first", x.tides(0, 2), -2);
+        x.item(0, 2, 0, 20);
         x.tides(0, 2);
         x.item(0, 2, 23, 6);
         Due.is("30 taken once", x.tide(23, 0), 5);

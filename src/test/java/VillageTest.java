@@ -7,6 +7,7 @@ final class VillageTest {
         lengthsByKind();
         lengthsFirstRow();
         lengthsRefused();
+        lengthsOfEight();
         meeting();
         pairs();
         pairsByKind();
@@ -174,6 +175,31 @@ final class VillageTest {
         Due.is("21 bad", x.lengths(-2), -1);
     }
 
+    private static void lengthsOfEight() {
+        StiltWays x = lagoon("10;20;30;40;50;60;5;15");
+        x.set(1, 0);
+        for (int i = 0; i < 8; i++) {
+            x.person(0, 60, 0);
+            x.need(i, i, i);
+        }
+        Due.is("21 eight", x.lengths(-1), 8);
+        int[] row = {5, 10, 15, 20, 30, 40, 50, 60, -4};
+        for (int i = 0; i < 9; i++) {
+            Due.is("21 the " + i + "th of eight", x.lengths(i), row[i]);
+        }
+        x.need(7, 7, 8);
+        x.need(7, 7, 9);
+        Due.is("21 ten needs", x.lengths(-1), 8);
+        x.tide(9, 1);
+        Due.is("21 the tenth can't be met", x.lengths(-1), -4);
+        x.set(1, 1);
+        Due.is("21 the tenth can be met", x.lengths(2), 16);
+        x.clear();
+        x.person(0, 0, 0);
+        x.need(0, 0, 0);
+        Due.is("21 of others", x.lengths(-1), 1);
+    }
+
     private static void meeting() {
         StiltWays x = lagoon("0;-1;-5");
         Due.is("22 bad", x.meeting(3), -1);
@@ -203,6 +229,27 @@ final class VillageTest {
         x.clear();
         x.make(2, 0, -1);
         Due.is("22 the one bar", x.meeting(0), 2);
+        x.make(0, 0, -1);
+        Due.is("22 place 0", x.meeting(0), 0);
+        for (int i = 3; i < 12; i++) {
+            x.place(-2);
+        }
+        for (int i = 0; i < 8; i++) {
+            x.person(0, 20, 0);
+        }
+        x.tide(0, -20);
+        x.tide(1, 3);
+        x.set(1, 19);
+        Due.is("22 all at a high tide", x.meeting(0), 0);
+        Due.is("22 all at a high tide", x.meeting(1), 1);
+        Due.is("22 all at a high tide", x.meeting(2), 8);
+        x.set(1, 18);
+        Due.is("22 none but in the deepest", x.meeting(0), 0);
+        x.set(1, 3);
+        x.tide(7, 0);
+        Due.is("22 none anywhere", x.meeting(0), 0);
+        Due.is("22 none anywhere", x.meeting(1), 0);
+        Due.is("22 none anywhere", x.meeting(2), 0);
         Due.is("22 no places", new StiltWays().meeting(2), -4);
     }
 
@@ -261,6 +308,9 @@ final class VillageTest {
         x.tide(23, 6);
         Due.is("24 some hour", x.flood(0, -1), 2);
         x.tide(23, 0);
+        x.tide(0, 6);
+        Due.is("24 the first hour", x.flood(0, -1), 2);
+        x.tide(0, 0);
         x.set(1, 14);
         Due.is("24 above reach", x.flood(0, -1), 5);
         Due.is("24 above reach", x.flood(1, -1), 4);
@@ -382,6 +432,10 @@ final class VillageTest {
         Due.is("26 at an hour", x.wrong(1, 5), 2);
         Due.is("26 at an hour", x.wrong(10, 5), 2 | 4);
         Due.is("26 at an hour", x.wrong(11, 5), 1 | 2 | 4);
+        for (int i = 5; i < 8; i++) {
+            x.person(0, 15, 1);
+        }
+        Due.is("26 of eight", x.wrong(6, 0), 7 + 32 + 64 + 128);
         Due.is("26 bad", x.wrong(0, 0), -1);
         Due.is("26 bad", x.wrong(31, 0), -1);
         Due.is("26 bad", x.wrong(1, 24), -1);

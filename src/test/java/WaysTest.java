@@ -246,6 +246,12 @@ final class WaysTest {
         Due.is("17 light in 600", x.way(0, 10, 77, 1), 0);
         Due.is("17 601", x.way(0, 11, 77, 0), -4);
         Due.is("17 light in 601", x.way(0, 11, 77, 1), -4);
+        x.person(0, 1, 1);
+        Due.is("18 in 600", x.race(1, 10, 77, 0), 0);
+        Due.is("18 in 600", x.race(1, 10, 77, 1), 1);
+        Due.is("18 in 601", x.race(1, 11, 77, 1), 0);
+        Due.is("18 in 600 and 540", x.race(3, 10, 77, 0), 1);
+        Due.is("18 in 601 and 541", x.race(3, 11, 77, 1), 1);
         x.path(9, 10, 59);
         Due.is("17 600", x.way(0, 11, 77, 0), 600);
     }
