@@ -22,7 +22,7 @@ final class ModelTest {
     }
 
     public static void main(String[] args) {
-        int runs = args.length > 0 ? Integer.parseInt(args[0]) : 150;
+        int runs = args.length > 0 ? Integer.parseInt(args[0]) : 100;
         for (int run = 1; run <= runs; run++) {
             ModelTest test = new ModelTest(run);
             test.begin();

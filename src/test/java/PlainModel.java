@@ -380,8 +380,12 @@ final class PlainModel {
         return w.years;
     }
 
+    /** Of a walk, by splices taken, place and hour: 0 not asked yet, 1 he doesn't stand, 2 he does. */
+    private final byte[] known = new byte[4096 * 12 * 24];
+
     /** By minutes: all states (place and splices taken, as a set of places) that one can be in. */
     private int[] wayOf(int person, int target, int start) {
+        Arrays.fill(known, (byte) 0);
         Person p = w.people.get(person);
         List<Set<Integer>> at = new ArrayList<>();
         for (int t = 0; t <= 600; t++) {
@@ -433,6 +437,14 @@ final class PlainModel {
     }
 
     private boolean standingAt(Person p, int place, int taken, int minute) {
+        int key = (taken * 12 + place) * 24 + minute / 60 % 24;
+        if (known[key] == 0) {
+            known[key] = (byte) (findStanding(p, place, taken, minute) ? 2 : 1);
+        }
+        return known[key] == 2;
+    }
+
+    private boolean findStanding(Person p, int place, int taken, int minute) {
         int length = p.length;
         for (int i = 0; i < 12; i++) {
             length += (taken >> i & 1) != 0 ? w.places.get(i)[1] : 0;
@@ -498,57 +510,38 @@ final class PlainModel {
         if (w.needs.isEmpty()) {
             return -2;
         }
+        int[] served = new int[61];
+        for (int length = 0; length <= 60; length++) {
+            for (int person = 0; person < w.people.size(); person++) {
+                served[length] |= servesOne(person, length) ? 1 << person : 0;
+            }
+        }
         for (int size = 1; size <= 8; size++) {
             int[] row = new int[size];
-            if (firstRow(row, 0, 0)) {
+            if (firstRow(served, row, 0, 0, 0)) {
                 return i == -1 ? size : i < size ? row[i] : -4;
             }
         }
         return -4;
     }
 
-    private boolean firstRow(int[] row, int filled, int least) {
+    /** Goes through all rows from the first on, but for those that all the LENGTHS behind would not save. */
+    private boolean firstRow(int[] served, int[] row, int filled, int least, int so) {
+        int all = (1 << w.people.size()) - 1;
         if (filled == row.length) {
-            return serves(row);
+            return so == all;
         }
+        int hope = so;
         for (int length = least; length <= 60; length++) {
+            hope |= served[length];
+        }
+        for (int length = least; length <= 60 && hope == all; length++) {
             row[filled] = length;
-            if (canServe(row, filled + 1) && firstRow(row, filled + 1, length + 1)) {
+            if (firstRow(served, row, filled + 1, length + 1, so | served[length])) {
                 return true;
             }
         }
         return false;
-    }
-
-    /** Leaves out what is hopeless: more people without a LENGTH than places in the row could serve at all. */
-    private boolean canServe(int[] row, int filled) {
-        int from = row[filled - 1] + 1;
-        for (int person = 0; person < w.people.size(); person++) {
-            boolean any = false;
-            for (int i = 0; i < filled; i++) {
-                any |= servesOne(person, row[i]);
-            }
-            for (int length = from; length <= 60 && !any && filled < row.length; length++) {
-                any |= servesOne(person, length);
-            }
-            if (!any) {
-                return false;
-            }
-        }
-        return true;
-    }
-
-    private boolean serves(int[] row) {
-        for (int person = 0; person < w.people.size(); person++) {
-            boolean any = false;
-            for (int length : row) {
-                any |= servesOne(person, length);
-            }
-            if (!any) {
-                return false;
-            }
-        }
-        return true;
     }
 
     private boolean servesOne(int person, int length) {
@@ -613,17 +606,23 @@ final class PlainModel {
             return all;
         }
         int[] best = new int[n];
-        int fewest = bestRow(new int[n], 0, v, 99, best);
+        boolean[][] drowned = new boolean[n][n];
+        for (int i = 0; i < n; i++) {
+            for (int other = 0; other < n; other++) {
+                drowned[i][other] = drowned(i, other, v);
+            }
+        }
+        int fewest = bestRow(drowned, new int[n], 0, 99, best);
         return who == -2 ? fewest : best[who];
     }
 
     /** Goes through all rows from the first on, so a later one must be better to count. */
-    private int bestRow(int[] row, int filled, int v, int fewest, int[] best) {
+    private int bestRow(boolean[][] drowned, int[] row, int filled, int fewest, int[] best) {
         int n = row.length;
         if (filled == n) {
             int all = 0;
             for (int i = 0; i < n; i++) {
-                all += drowned(i, row[i], v) ? 1 : 0;
+                all += drowned[i][row[i]] ? 1 : 0;
             }
             if (all < fewest) {
                 System.arraycopy(row, 0, best, 0, n);
@@ -638,7 +637,7 @@ final class PlainModel {
             }
             if (free) {
                 row[filled] = other;
-                now = bestRow(row, filled + 1, v, now, best);
+                now = bestRow(drowned, row, filled + 1, now, best);
             }
         }
         return now;

@@ -372,6 +372,17 @@ final class VillageTest {
         Due.is("24 eight", x.flood(6, -1), 255);
         Due.is("24 eight", x.flood(6, -2), 8);
         Due.is("24 eight", x.flood(6, 7), 7);
+        x.clear();
+        x.set(1, 0);
+        for (int i = 0; i < 8; i++) {
+            x.make(0, 0, 0);
+            x.person(i == 7 ? 2 : 0, i == 0 ? 9 : i == 1 ? 7 : 30, 0);
+        }
+        Due.is("24 all but 0 and 7", x.flood(7, -2), 6);
+        int[] row = {1, 2, 3, 4, 5, 6, 7, 0};
+        for (int i = 0; i < 8; i++) {
+            Due.is("24 eight, " + i, x.flood(7, i), row[i]);
+        }
     }
 
     private static void carried() {

@@ -351,8 +351,19 @@ final class WaysTest {
         Due.is("17 from the post he comes again", x.way(1, 2, 30, 0), 40);
         Due.is("17 at the post, the first minute", x.way(1, 2, 60, 0), 10);
         x.path(0, 1, 0);
+        waitingAtPlaceNought();
         Due.is("17 waiting is not coming", x.way(1, 2, 30, 0), -4);
         Due.is("17 at the post, the first minute", x.way(1, 2, 60, 0), 10);
+    }
+
+    private static void waitingAtPlaceNought() {
+        StiltWays x = lagoon("0p15;15", "ab10");
+        x.person(0, 10, 0);
+        for (int hour = 1; hour < 24; hour++) {
+            x.tide(hour, 5);
+        }
+        Due.is("17 waiting is not coming", x.way(0, 1, 30, 0), -4);
+        Due.is("17 the first minute", x.way(0, 1, 60, 0), 10);
     }
 
     private static void wayLight() {
