@@ -1,7 +1,10 @@
+import java.util.function.IntUnaryOperator;
+
 /** Collects answers that are not as due; a test ends with exit code 1 if there was one. */
 final class Due {
     private static int wrong = 0;
     private static int asked = 0;
+    private static String sentence = "";
 
     private Due() {
     }
@@ -11,8 +14,20 @@ final class Due {
         if (got != want) {
             wrong++;
             if (wrong <= 50) {
-                System.out.println(call + " answered " + got + ", due is " + want);
+                System.out.println(sentence + call + " answered " + got + ", due is " + want);
             }
+        }
+    }
+
+    /** What is tested from here on, for the answers that are not as due. */
+    static void sentence(String told) {
+        sentence = told + ": ";
+    }
+
+    /** Asks with numbers just outside a range, and far outside it: each must answer so. */
+    static void outside(String call, int least, int most, int want, IntUnaryOperator ask) {
+        for (int v : new int[] {least - 1, most + 1, Integer.MIN_VALUE, Integer.MAX_VALUE}) {
+            is(call + " of " + v, ask.applyAsInt(v), want);
         }
     }
 
