@@ -73,8 +73,9 @@ final class BoundsOfSheets {
 
     private static void lanesWithASign() {
         Told.of(0, "or a row of a LANE: 0 bytes, 1 shorts, 2 ints (all with a sign),");
-        int[] vs = {20, -20, 127, 128, 255, 256, 236, 276, 32767, 32768, 65535, 65536, 65516, 65556, -128, -129, -236,
-            -276, -32768, -32769, -65516, -65556, 1 << 24, Integer.MAX_VALUE, Integer.MIN_VALUE, Integer.MIN_VALUE + 20};
+        int[] vs = {20, -20, 127, 128, 255, 256, 236, 276, 32767, 32768, 65535, 65536, 65516, 65556, 1 << 24,
+            -128, -129, -236, -276, -32768, -32769, -65516, -65556, Integer.MAX_VALUE, Integer.MIN_VALUE,
+            Integer.MIN_VALUE + 20};
         for (int lane = 0; lane < 3; lane++) {
             for (int v : vs) {
                 StiltWays x = row(3, lane, -3);
