@@ -398,7 +398,8 @@ public final class StiltWays {
         return 1;
     }
 
-    // ---- 4 sheets 0 .. 3
+    // ---- 4 sheets 0 .. 3: nothing (at first), or a row of a LANE: 0 bytes, 1 shorts, 2 ints (all with a sign),
+    // of 0 to 24 items
 
     public int tides(int sheet, int lane) {
         int refused = refusal(sheet, lane);

@@ -27,12 +27,17 @@ final class FaceTest {
     private static final String[] FORBIDDEN = {"->", "::", "import ", "package ", "catch", "throw", "try ", "finally",
         "synchronized", "assert ", "System.out", "Exact(", "random", "currentTime", "Object", "var ", "null"};
 
+    private static final String SOURCE = "src/main/java/StiltWays.java", DOCUMENT = "../shared/DOC.md";
+
     public static void main(String[] args) throws IOException, ReflectiveOperationException {
         methods();
         constants();
         otherMembers();
         insideClasses();
         source();
+        documentsFace();
+        documentsSections();
+        lastCall();
         anyArguments();
         Due.end();
     }
@@ -113,8 +118,53 @@ final class FaceTest {
         }
     }
 
+    private static String read(String path) throws IOException {
+        return Files.readString(Path.of(path), StandardCharsets.ISO_8859_1);
+    }
+
+    /** Every line of the document's face stands so in the source, in the document's order. */
+    private static void documentsFace() throws IOException {
+        if (!Files.isReadable(Path.of(DOCUMENT))) {
+            return;
+        }
+        String document = read(DOCUMENT);
+        int from = document.indexOf("```java") + "```java".length();
+        String source = read(SOURCE);
+        int behind = 0;
+        int lines = 0;
+        for (String line : document.substring(from, document.indexOf("```", from)).split("\n")) {
+            if (line.isBlank()) {
+                continue;
+            }
+            boolean call = line.endsWith(");");
+            String due = call ? line.replace(";", " {") : line;
+            int at = line.equals("}") ? behind : source.indexOf(due, behind);
+            holds("in the source, in order: " + due, at >= behind);
+            behind = Math.max(behind, at);
+            lines++;
+        }
+        Due.is("lines of the face: the class, its constants, its constructor, 33 calls, its end", lines, 37);
+    }
+
+    /** What the interface says ahead of some calls stands as a comment ahead of the first of them. */
+    private static void documentsSections() throws IOException {
+        if (!Files.isReadable(Path.of(DOCUMENT))) {
+            return;
+        }
+        String source = read(SOURCE).replaceAll("\n *(// )?", " ");
+        Pattern told = Pattern.compile("Ahead of the calls `(\\w+)`[^\n]*says: (---- [^\n]*)\\.\n");
+        Matcher section = told.matcher(read(DOCUMENT));
+        int sections = 0;
+        while (section.find()) {
+            String due = section.group(2) + " public int " + section.group(1) + "(";
+            holds("in the source: " + due, source.replaceAll(" +", " ").contains(due));
+            sections++;
+        }
+        Due.is("sections of the interface", sections, 4);
+    }
+
     private static void source() throws IOException {
-        String text = Files.readString(Path.of("src/main/java/StiltWays.java"), StandardCharsets.ISO_8859_1);
+        String text = read(SOURCE);
         for (int i = 0; i < text.length(); i++) {
             if (text.charAt(i) > 126 || text.charAt(i) == '\t') {
                 holds("plain signs alone, at " + i, false);
@@ -143,6 +193,27 @@ final class FaceTest {
                 holds("a short method at " + (began + 1), i - began < 60);
             }
         }
+    }
+
+    /** An object still answers as told in its 512th call, and remembers all that came ahead. */
+    private static void lastCall() {
+        StiltWays x = new StiltWays();
+        x.place(5);
+        x.person(0, 15, 0);
+        int[] tide = new int[24];
+        for (int call = 3; call < 512; call++) {
+            int hour = call % 24;
+            int v = call * 7 % 41 - 20;
+            Due.is("call " + call + ": tide", x.tide(hour, v), tide[hour]);
+            tide[hour] = v;
+        }
+        int due = 0;
+        for (int hour = 0; hour < 24; hour++) {
+            int water = Math.max(0, 5 + tide[hour]);
+            due |= water <= 15 ? 1 << hour : 0;
+        }
+        holds("some hours, but not all", due != 0 && due != (1 << 24) - 1);
+        Due.is("call 512: hours", x.hours(0, 0), due);
     }
 
     /** No call throws, and every run of calls ends, for any arguments in any state. */
